@@ -852,8 +852,9 @@ public final class CodeLifter {
 
         long leadingTo(int block) {
             long found = 0;
-            for (int round = 0; round <= size; round++) {
-                long goals = found | 1L << block;
+            long goals = 0;
+            for (int round = 0; round <= size && goals != (found | 1L << block); round++) {
+                goals = found | 1L << block;
                 for (int b = 0; b < size; b++) {
                     if ((nexts[b] & goals) != 0) {
                         found |= 1L << b;
@@ -999,10 +1000,10 @@ public final class CodeLifter {
 
         private long sharedBefore(int b) {
             long shared = (1L << blocks.size) - 1;
-            for (int a = 0; a < blocks.size; a++) {
-                if (isIn(before[b], a)) {
-                    shared &= dominators[a];
-                }
+            long open = before[b];
+            for (int left = Long.bitCount(open); left > 0; left--) {
+                shared &= dominators[Long.numberOfTrailingZeros(open)];
+                open &= open - 1;
             }
             return shared;
         }
@@ -1079,7 +1080,9 @@ public final class CodeLifter {
 
         private long comingBack(int head, int source) {
             long found = 1L << head | 1L << source;
-            for (int round = 0; round < blocks.size; round++) {
+            long known = 0;
+            for (int round = 0; round <= blocks.size && known != found; round++) {
+                known = found;
                 for (int b = 0; b < blocks.size; b++) {
                     if (b != head && isIn(found, b)) {
                         found |= before[b];

@@ -1,0 +1,134 @@
+import java.util.NoSuchElementException;
+
+/** What all tests share: comparing answers with those due, and feeding texts. */
+final class Due {
+    static final int NONE = CodeLifter.NONE;
+    static final int HIDDEN = CodeLifter.HIDDEN;
+    private static int wrong = 0;
+
+    private Due() {
+    }
+
+    static void same(String call, long got, long want) {
+        if (got != want) {
+            wrong++;
+            System.out.println(call + " answered " + got + ", due is " + want);
+        }
+    }
+
+    static void holds(String call, boolean got) {
+        same(call, got ? 1 : 0, 1);
+    }
+
+    static void fails(String call, boolean got) {
+        same(call, got ? 1 : 0, 0);
+    }
+
+    static void text(String call, String got, String want) {
+        if (!got.equals(want)) {
+            wrong++;
+            System.out.println(call + " answered\n" + got + "\ndue is\n" + want);
+        }
+    }
+
+    static void refuses(String call, Runnable asked) {
+        try {
+            asked.run();
+        } catch (NoSuchElementException e) {
+            return;
+        }
+        wrong++;
+        System.out.println(call + " didn't throw NoSuchElementException");
+    }
+
+    /** Ends the test, with exit code 1 if an answer was wrong. */
+    static void close() {
+        if (wrong != 0) {
+            System.exit(1);
+        }
+    }
+
+    /** Twenty bytes a call; what the last feed answered. */
+    static int feed(CodeLifter lifter, String text) {
+        int length = NONE;
+        for (int from = 0; from < text.length(); from += 20) {
+            int[] words = new int[5];
+            for (int k = 0; k < 20; k++) {
+                int next = from + k < text.length() ? text.charAt(from + k) : 0;
+                words[k / 4] = words[k / 4] << 8 | next;
+            }
+            length = lifter.feed(words[0], words[1], words[2], words[3], words[4]);
+        }
+        return length;
+    }
+
+    static CodeLifter fed(String text) {
+        CodeLifter lifter = new CodeLifter();
+        feed(lifter, text);
+        return lifter;
+    }
+
+    static CodeLifter coded(String text) {
+        CodeLifter lifter = fed(text);
+        if (lifter.code() < 1) {
+            wrong++;
+            System.out.println("isn't taken as code: " + text);
+        }
+        return lifter;
+    }
+
+    static String spelled(CodeLifter lifter, int line) {
+        StringBuilder signs = new StringBuilder();
+        for (int k = 0; k < lifter.spell(line, NONE); k++) {
+            signs.append((char) lifter.spell(line, k));
+        }
+        return signs.toString();
+    }
+
+    static String condition(CodeLifter lifter, int block) {
+        StringBuilder signs = new StringBuilder();
+        for (int k = 0; k < lifter.condition(block, NONE); k++) {
+            signs.append((char) lifter.condition(block, k));
+        }
+        return signs.toString();
+    }
+
+    /** All lines, each behind as many blanks as it stands in { }. */
+    static String told(CodeLifter lifter) {
+        StringBuilder all = new StringBuilder();
+        for (int i = 0; i < lifter.count(8); i++) {
+            all.append(" ".repeat(Math.max(0, lifter.line(i, 2)))).append(spelled(lifter, i)).append('\n');
+        }
+        return all.toString();
+    }
+
+    /** The statements of a block in a row, as its lines spell them. */
+    static String statements(CodeLifter lifter, int block) {
+        StringBuilder all = new StringBuilder();
+        for (int i = 0; i < lifter.count(8); i++) {
+            if (lifter.line(i, 0) == 0 && lifter.line(i, 1) == block) {
+                all.append(spelled(lifter, i));
+            }
+        }
+        return all.toString();
+    }
+
+    /** A column of answers of instruction, block or edge, told as 1,2,3. */
+    static String column(CodeLifter lifter, char of, int what) {
+        StringBuilder all = new StringBuilder();
+        int size = lifter.count(of == 'i' ? 0 : of == 'b' ? 1 : 2);
+        for (int i = 0; i < size; i++) {
+            int answer = of == 'i' ? lifter.instruction(i, what) : of == 'b' ? lifter.block(i, what) : lifter.edge(i, what);
+            all.append(i == 0 ? "" : ",").append(answer);
+        }
+        return all.toString();
+    }
+
+    static String counts(CodeLifter lifter) {
+        StringBuilder all = new StringBuilder();
+        for (int what = 0; what <= 14; what++) {
+            all.append(what == 0 ? "" : ",").append(lifter.count(what));
+        }
+        return all.toString();
+    }
+}

@@ -131,4 +131,26 @@ final class Due {
         }
         return all.toString();
     }
+
+    /** All that an object tells of its code, but for runs. */
+    static String everything(CodeLifter lifter) {
+        StringBuilder all = new StringBuilder(counts(lifter)).append('\n').append(told(lifter));
+        for (int what = 0; what <= 12; what++) {
+            all.append(what < 6 ? column(lifter, 'i', what) : "").append(' ').append(column(lifter, 'b', what)).append(' ');
+            all.append(what < 5 ? column(lifter, 'e', what) : "").append(' ').append(lifter.most(what)).append('\n');
+        }
+        for (int b = 0; b < lifter.count(1); b++) {
+            all.append(condition(lifter, b)).append(' ').append(lifter.loop(b)).append(' ').append(lifter.comesTo(b));
+            for (int c = 0; c < lifter.count(1); c++) {
+                all.append(lifter.dominates(b, c) ? " +" : " ").append(lifter.far(b, c));
+            }
+            all.append('\n');
+        }
+        for (int sort = 0; sort < 3; sort++) {
+            for (int number = 0; number < 12; number++) {
+                all.append(lifter.type(sort, number)).append(' ');
+            }
+        }
+        return all.toString();
+    }
 }

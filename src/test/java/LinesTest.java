@@ -329,6 +329,7 @@ public final class LinesTest {
         Due.same("most(-1)", lifter.most(-1), HIDDEN);
         Due.same("most(8)", lifter.most(8), HIDDEN);
         Due.same("of several the lowest", Due.coded("k1og2k2og4r").most(6), 0);
+        Due.same("a loop of 0 alone", Due.coded("g0").most(0), 1);
         Due.same("no statement at all", Due.coded("g0").most(6), 0);
         Due.same("no expression at all", Due.coded("r").most(4), 0);
         Due.same("the highest stack is behind", Due.coded("k1k1k1pppr").most(5), 3);

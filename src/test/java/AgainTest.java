@@ -16,8 +16,19 @@ public final class AgainTest {
                 again(used, CODES[k * round % CODES.length]);
             }
         }
+        for (int number = 0; number + 12 < 1000; number += 12) {
+            again(used, numbers(number));
+        }
         putBackAndForth();
         Due.close();
+    }
+
+    private static String numbers(int first) {
+        StringBuilder text = new StringBuilder();
+        for (int number = first; number < first + 12; number++) {
+            text.append('k').append(number).append('o');
+        }
+        return text.append('r').toString();
     }
 
     private static void again(CodeLifter used, String text) {

@@ -177,6 +177,7 @@ public final class LiftTest {
         Due.same("names that are truths", fresh.most(7), 4 + 1);
         CodeLifter thrown = Due.coded("lalb/ororh0,4,5");
         Due.text("what is thrown is none", types(thrown, 1, 1), "0");
+        Due.text("even if it is 1", types(Due.coded("k1torh0,2,2"), 1, 1), "0");
         CodeLifter still = Due.coded("k1g2or");
         Due.text("else it may be", types(still, 1, 1), "1");
     }

@@ -32,6 +32,7 @@ public final class LinesTest {
     private static void straight() {
         tells("r", "B0:\nreturn;\n");
         tells("k7t", "B0:\nthrow 7;\n");
+        tells("k9ok10ok99ok100ok999or", "B0:\nout 9;\nout 10;\nout 99;\nout 100;\nout 999;\nreturn;\n");
         tells("g1laor", "B0:\nB1:\nout a;\nreturn;\n");
         tells("iz2r", "B0:\nin;\nB1:\nreturn;\n");
     }

@@ -246,6 +246,13 @@ public final class TapeTest {
         Due.same("f for c", lifter.put(1, 's', 5), 2);
         Due.same("its number", lifter.instruction(1, 1), 5);
         Due.same("what isn't come to may be anything", lifter.put(11, 'o', 0), 2);
+        Due.same("k 0", lifter.put(0, 'k', 0), 2);
+        Due.same("s a", lifter.put(1, 's', 0), 2);
+        Due.same("l a", lifter.put(2, 'l', 0), 2);
+        Due.same("g 0", lifter.put(10, 'g', 0), 2);
+        Due.same("one comes back to 0", lifter.loop(0), 3);
+        Due.same("z 0", lifter.put(3, 'z', 0), 2);
+        Due.same("g 39", lifter.put(11, 'g', 39), -2);
     }
 
     private static void putRefused() {

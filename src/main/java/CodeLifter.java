@@ -41,6 +41,7 @@ public final class CodeLifter {
     private static final int TRY = 9;
     private static final int CATCH = 10;
     private static final int LABEL = 11;
+    private static final int LEFT_OUT = 12;
 
     private static final int RETURNED = 0;
     private static final int THROWN = 1;
@@ -1608,7 +1609,6 @@ public final class CodeLifter {
         final int[] label = new int[MOST_INSTRUCTIONS];
         final int[] loopStart = new int[MOST_INSTRUCTIONS];
         final int[] blockEnd = new int[MOST_INSTRUCTIONS];
-        private final boolean[] isLeftOut = new boolean[MOST_LINES];
         /** The lines whose { is open while they are matched. */
         private final int[] openers = new int[3 * MOST_INSTRUCTIONS];
         private int nest;
@@ -1720,7 +1720,6 @@ public final class CodeLifter {
                 block[size] = newBlock;
                 depth[size] = nest;
                 link[size] = newLink;
-                isLeftOut[size] = false;
                 size++;
             }
         }
@@ -1767,11 +1766,13 @@ public final class CodeLifter {
 
         private void leaveOut() {
             for (int i = 0; i < size; i++) {
-                isLeftOut[i] = kind[i] == BREAK && endsAnyway(i);
+                if (kind[i] == BREAK && endsAnyway(i)) {
+                    kind[i] = LEFT_OUT;
+                }
             }
             for (int i = 0; i + 1 < size; i++) {
-                if (kind[i] == ELSE && isLeftOut[i + 1] && link[i] == i + 2) {
-                    isLeftOut[i] = true;
+                if (kind[i] == ELSE && kind[i + 1] == LEFT_OUT && link[i] == i + 2) {
+                    kind[i] = LEFT_OUT;
                 }
             }
         }
@@ -1797,7 +1798,7 @@ public final class CodeLifter {
         private void close() {
             int kept = 0;
             for (int i = 0; i < size; i++) {
-                if (!isLeftOut[i]) {
+                if (kind[i] != LEFT_OUT) {
                     kind[kept] = kind[i];
                     block[kept] = block[i];
                     depth[kept] = depth[i];

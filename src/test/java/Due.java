@@ -1,3 +1,6 @@
+import java.io.IOException;
+import java.nio.file.Files;
+import java.nio.file.Path;
 import java.util.NoSuchElementException;
 
 /** What all tests share: comparing answers with those due, and feeding texts. */
@@ -5,15 +8,38 @@ final class Due {
     static final int NONE = CodeLifter.NONE;
     static final int HIDDEN = CodeLifter.HIDDEN;
     private static int wrong = 0;
+    private static String document = "";
+    private static String sentence = "";
 
     private Due() {
     }
 
+    /** The sentence of DOC.md that the next answers are due by; it must stand there. */
+    static void says(String words) {
+        sentence = words;
+        if (document.isEmpty()) {
+            document = document();
+        }
+        holds("the document says it", document.contains(words));
+    }
+
+    private static String document() {
+        try {
+            return Files.readString(Path.of("../shared/DOC.md")).replace("\n  ", " ");
+        } catch (IOException e) {
+            throw new IllegalStateException(e);
+        }
+    }
+
     static void same(String call, long got, long want) {
         if (got != want) {
-            wrong++;
-            System.out.println(call + " answered " + got + ", due is " + want);
+            wrong(call + " answered " + got + ", due is " + want);
         }
+    }
+
+    private static void wrong(String what) {
+        wrong++;
+        System.out.println(sentence.isEmpty() ? what : "\"" + sentence + "\": " + what);
     }
 
     static void holds(String call, boolean got) {
@@ -26,8 +52,7 @@ final class Due {
 
     static void text(String call, String got, String want) {
         if (!got.equals(want)) {
-            wrong++;
-            System.out.println(call + " answered\n" + got + "\ndue is\n" + want);
+            wrong(call + " answered\n" + got + "\ndue is\n" + want);
         }
     }
 
@@ -37,8 +62,7 @@ final class Due {
         } catch (NoSuchElementException e) {
             return;
         }
-        wrong++;
-        System.out.println(call + " didn't throw NoSuchElementException");
+        wrong(call + " didn't throw NoSuchElementException");
     }
 
     /** Ends the test, with exit code 1 if an answer was wrong. */
@@ -71,8 +95,7 @@ final class Due {
     static CodeLifter coded(String text) {
         CodeLifter lifter = fed(text);
         if (lifter.code() < 1) {
-            wrong++;
-            System.out.println("isn't taken as code: " + text);
+            wrong("isn't taken as code: " + text);
         }
         return lifter;
     }
@@ -130,6 +153,44 @@ final class Due {
             all.append(what == 0 ? "" : ",").append(lifter.count(what));
         }
         return all.toString();
+    }
+
+    static void fault(String text, int want) {
+        CodeLifter lifter = fed(text);
+        same("fault of " + text, lifter.fault(), want);
+        if (want != NONE) {
+            same("code of " + text, lifter.code(), NONE);
+        }
+        same("bytes of " + text, lifter.count(12), text.length());
+    }
+
+    /** How many blocks, or why it isn't right. */
+    static void verdict(String text, int want) {
+        CodeLifter lifter = fed(text);
+        same("fault of " + text, lifter.fault(), NONE);
+        same("code of " + text, lifter.code(), want);
+        same("bytes left of " + text, lifter.count(12), want > 0 ? 0 : text.length());
+    }
+
+    /** What code and lines answer to run(.., what) from 0 on; call: a, b, seed, blocks. */
+    static void runs(CodeLifter lifter, int[] call, int... want) {
+        for (int how = 0; how < 2; how++) {
+            for (int what = 0; what < want.length; what++) {
+                int got = lifter.run(how, call[0], call[1], call[2], call[3], what);
+                same("run how " + how + ", what " + what, got, want[what]);
+            }
+        }
+    }
+
+    /** All outputs of code and of lines. */
+    static void outputs(CodeLifter lifter, int[] call, int... want) {
+        for (int how = 0; how < 2; how++) {
+            for (int k = -1; k <= want.length; k++) {
+                int due = k < 0 || k == want.length ? HIDDEN : want[k];
+                same("output how " + how + ", " + k, lifter.output(how, call[0], call[1], call[2], call[3], k), due);
+            }
+            same("outputs", lifter.run(how, call[0], call[1], call[2], call[3], 0), want.length);
+        }
     }
 
     /** All that an object tells of its code, but for runs. */

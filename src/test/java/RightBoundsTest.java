@@ -27,6 +27,8 @@ public final class RightBoundsTest {
         put();
         putRefused();
         putNotRight();
+        refusedLeavesAll();
+        fullTape();
         Due.close();
     }
 
@@ -412,5 +414,56 @@ public final class RightBoundsTest {
         Due.same("it may throw now", caught.put(2, '/', 0), 2);
         Due.same("as many there", caught.put(3, 'p', 0), -6);
         Due.same("its handler stays", caught.count(3), 1);
+    }
+
+    /** What is refused, or only asked for, leaves all as it was. */
+    private static void refusedLeavesAll() {
+        Due.says("Nothing is promised beyond the answers and state changes described above");
+        CodeLifter lifter = Due.coded(COUNTDOWN);
+        Due.feed(lifter, "k1x");
+        String before = Due.everything(lifter);
+        for (int bad : new int[] {-1, 40, 64, Integer.MIN_VALUE, Integer.MAX_VALUE}) {
+            lifter.end(bad);
+            lifter.put(bad, 'r', 0);
+            lifter.put(0, bad, 0);
+            lifter.put(0, 'k', bad == 40 || bad == 64 ? 1000 : bad);
+            lifter.count(bad);
+            lifter.edge(bad, 0);
+            lifter.dominates(bad, bad);
+            lifter.loop(bad);
+            lifter.statement(bad, 0, 0);
+            lifter.condition(1, bad);
+            lifter.line(bad, 0);
+            lifter.spell(bad, 0);
+            lifter.type(bad, 0);
+            lifter.run(bad, 1, 1, 1, 1, 0);
+            lifter.output(0, 1, 1, 1, 1, bad);
+            lifter.comesTo(bad);
+            lifter.far(0, bad);
+            lifter.most(bad);
+            Due.refuses("instruction", () -> lifter.instruction(bad, 0));
+            Due.refuses("block", () -> lifter.block(bad, 0));
+        }
+        Due.same("a fault", lifter.fault(), 2);
+        Due.same("no code", lifter.code(), NONE);
+        Due.text("all is as it was", Due.everything(lifter), before);
+        Due.same("the tape, too", lifter.count(12), 3);
+    }
+
+    private static void fullTape() {
+        Due.says("The TAPE (empty then) is the CODE: how many BLOCKS.");
+        CodeLifter lifter = Due.coded(COUNTDOWN);
+        Due.feed(lifter, "k7t" + " ".repeat(237));
+        Due.same("full", lifter.count(12), 240);
+        Due.same("none more", lifter.feed(' ', 0, 0, 0, 0), NONE);
+        Due.same("put leaves it", lifter.put(0, 'k', 5), 4);
+        Due.same("full still", lifter.count(12), 240);
+        Due.same("no fault", lifter.fault(), NONE);
+        Due.same("it is code", lifter.code(), 1);
+        Due.same("empty", lifter.count(12), 0);
+        Due.same("twenty more", lifter.feed(-1, -1, -1, -1, -1), 20);
+        CodeLifter long240 = Due.fed(" k 999 p  ".repeat(20) + "r" + " h 0 , 1 , 0".repeat(3) + " ".repeat(3));
+        Due.same("full", long240.count(12), 240);
+        Due.same("forty and one", long240.fault(), 200);
     }
 }

@@ -26,6 +26,7 @@ public final class ShapeBoundsTest {
         stillComeTo();
         firstOfSeveral();
         tangled();
+        tangledByAll();
         merges();
         mergesOfHandlers();
         counts();
@@ -226,6 +227,29 @@ public final class ShapeBoundsTest {
         Due.same("not even the first", lifter.spell(0, 0), NONE);
     }
 
+    private static void tangledByAll() {
+        Due.says("(3 to 8 by EDGES KEPT; TANGLED: by all.)");
+        CodeLifter lifter = Due.coded(KNOT_1 + KNOT_2 + KNOT_3 + "g18");
+        Due.same("jumps", lifter.count(6), NONE);
+        Due.text("the last goes to itself", Due.column(lifter, 'e', 2), "0" + ",0".repeat(17) + ",1");
+        Due.same("a loop", lifter.count(4), 1);
+        Due.same("its block", lifter.loop(9), 1L << 9);
+        Due.same("no loop", lifter.loop(8), NONE);
+        Due.text("order", Due.column(lifter, 'b', 3), "0,1,2,3,4,5,6,7,8,9");
+        Due.text("above", Due.column(lifter, 'b', 4), "-1,0,0,0,3,3,3,6,6,6");
+        Due.text("innermost", Due.column(lifter, 'b', 5), "-1" + ",-1".repeat(8) + ",9");
+        Due.text("of how many", Due.column(lifter, 'b', 6), "0,0,0,0,0,0,0,0,0,1");
+        Due.text("merges", Due.column(lifter, 'b', 7), "0,1,1,1,1,1,1,1,1,1");
+        Due.text("loops", Due.column(lifter, 'b', 8), "0,0,0,0,0,0,0,0,0,1");
+        Due.holds("6 dominates 9", lifter.dominates(6, 9));
+        Due.fails("7 doesn't", lifter.dominates(7, 9));
+        Due.same("most loops", lifter.most(0), 1);
+        Due.same("from all to the last", lifter.comesTo(9), 1023);
+        Due.same("far", lifter.far(0, 9), 6);
+        Due.same("the code runs", lifter.run(0, 0, 0, 0, 200, 4), 200);
+        Due.same("its lines don't", lifter.run(1, 0, 0, 0, 200, 4), HIDDEN);
+    }
+
     private static void merges() {
         Due.says("MERGE: a BLOCK of two or more KEPT EDGES that aren't BACK");
         column("g1r", 'b', 7, "0,0");
@@ -303,7 +327,14 @@ public final class ShapeBoundsTest {
     private static void block() {
         Due.says("12 the HANDLER's BLOCK to which it may THROW (NONE). NoSuchElementException: no such ones.");
         CodeLifter lifter = Due.coded(CAUGHT);
-        Due.text("may throw to", Due.column(lifter, 'b', 12), "2,-1,-1");
+        String[] caught = {"0,4,5", "3,4,6", "0,0,1", "0,2,1", "-1,0,0", "-1,-1,-1", "0,0,0", "0,0,1", "0,0,0", "1,1,2", "3,0,0", "0,0,0",
+            "2,-1,-1"};
+        String[] counted = {"0,2,4,11", "1,3,10,11", "0,0,0,0", "0,1,3,2", "-1,0,1,1", "-1,1,1,-1", "0,1,1,0", "0,0,0,0", "0,1,0,0",
+            "1,0,2,1", "0,4,4,0", "4,4,4,0", "-1,-1,-1,-1"};
+        for (int what = 0; what <= 12; what++) {
+            column(CAUGHT, 'b', what, caught[what]);
+            column(COUNTDOWN, 'b', what, counted[what]);
+        }
         column("lalb*ororh0,4,5", 'b', 12, "-1,-1");
         column("lalb/orh0,2,3", 'b', 12, "-1,-1,-1");
         column("lalb/orh2,3,3", 'b', 12, "-1,2,-1");

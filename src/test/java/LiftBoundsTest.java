@@ -129,6 +129,7 @@ public final class LiftBoundsTest {
         lifts("lalbw-or", 0, "out (b-a);return;");
         lifts("ilalbw--or", 0, "out (in-(b-a));return;");
         lifts("iilaw--or", 0, "out (in-(a-in));return;");
+        lifts("ilaiw--or", 0, "out (in-(in-a));return;");
         lifts("k5g2iw-or", 1, "out (in-t0);return;");
     }
 
@@ -172,7 +173,9 @@ public final class LiftBoundsTest {
         lifts("k1g2dd+*k3wg9oor", 1, "x0=t0;t0=3;t1=(x0*(x0+x0));");
         lifts("k1k2g3w-d*g8or", 1, "x0=(t1-t0);t0=(x0*x0);");
         lifts("k1g2k3wk5g7ppr", 1, "x0=t0;t0=3;t1=x0;t2=5;");
+        lifts("k1k2g3k3wg6ooor", 1, "x0=t1;t1=3;t2=x0;");
         // Not if it is in those below, or in its own alone.
+        lifts("k1g2dp!g6or", 1, "t0=!t0;");
         lifts("k1g2k1+g5or", 1, "t0=(t0+1);");
         lifts("k1k2g3wpdg6+or", 1, "t0=t1;");
         lifts("k1k2g3+k3g6+or", 1, "t0=(t0+t1);t1=3;");
@@ -267,6 +270,8 @@ public final class LiftBoundsTest {
         Due.same("and T0", Due.coded("k1g2or").most(7), 5);
         Due.same("but T0", Due.coded("k2g2or").most(7), 4);
         Due.same("and X0", Due.coded("la!d+or").most(7), 5);
+        Due.same("X0, but not T0", Due.coded("la!dopk5g7or").most(7), 5);
+        Due.text("T0, T1, T2, but not c", types(Due.coded("isck1k1k1g6pppr"), 1, 3), "111");
         Due.same("none", Due.coded("iscisdiseisfr").most(7), 0);
     }
 
@@ -283,6 +288,7 @@ public final class LiftBoundsTest {
         Due.same("stored in between", Due.coded("g1isbg4lbor").block(0, 10), 0);
         Due.same("on one of two ways", Due.coded("laz5isbrlbor").block(0, 10), 3);
         Due.same("round a loop", Due.coded("isalbz5g0r").block(0, 10), 2);
+        Due.same("behind it both ways", Due.coded("laz5lborlcor").block(0, 11), 6);
         Due.same("behind it round the loop", Due.coded("lalbsaz0r").block(0, 11), 3);
         Due.same("behind the end", Due.coded("laor").block(0, 11), 0);
     }
@@ -348,12 +354,14 @@ public final class LiftBoundsTest {
         }
         Due.says("4 the most EXPRESSIONS that a STATEMENT's E is (as there)");
         Due.same("five", lifter.most(4), 5);
+        Due.same("the first one's", Due.coded("lalb+or").most(4), 3);
         Due.same("none", Due.coded("r").most(4), 0);
         Due.same("not of z's", Due.coded("lalb+lc*z7rr").most(4), 0);
         Due.says("6 the BLOCK of most STATEMENTS (of several the lowest)");
         Due.same("the first", lifter.most(6), 0);
         Due.same("of two", Due.coded("k1og3k1og6r").most(6), 0);
         Due.same("the second", Due.coded("g1k1or").most(6), 1);
+        Due.same("the third", Due.coded("k1og3k1ok1og8k1ok1or").most(6), 2);
     }
 
     private static void condition() {

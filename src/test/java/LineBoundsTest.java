@@ -260,6 +260,9 @@ public final class LineBoundsTest {
             return;
             """);
         Due.same("nor here", deeper.most(2), 0);
+        Due.outputs(deeper, new int[] {1, 1, 0, 9}, 1);
+        Due.outputs(deeper, new int[] {1, 0, 0, 9}, 2);
+        Due.outputs(deeper, new int[] {0, 0, 0, 9}, 3);
     }
 
     private static void breakOverLoop() {
@@ -311,7 +314,8 @@ public final class LineBoundsTest {
             """);
         Due.same("one is left", lifter.most(2), 1);
         Due.outputs(lifter, new int[] {0, 0, 0, 9}, 2);
-        Due.outputs(lifter, new int[] {1, 0, 0, 9});
+        Due.runs(lifter, new int[] {1, 0, 0, 9}, 0, 0, 0, 0, 3);
+        Due.runs(lifter, new int[] {1, 0, 0, 2}, 0, 2, 0, 0, 2);
         Due.outputs(lifter, new int[] {1, 1, 0, 9}, 1, 2);
     }
 
@@ -332,6 +336,9 @@ public final class LineBoundsTest {
         Due.outputs(Due.coded(CAUGHT), new int[] {7, 0, 0, 9}, 99);
         Due.outputs(Due.coded(CAUGHT), new int[] {7, 2, 0, 9}, 3);
         Due.outputs(Due.coded("latorh0,2,2"), new int[] {-8, 0, 0, 9}, -8);
+        // a=3 and t0=7 and x0=1 are held apart.
+        Due.outputs(Due.coded("k7g2k3saor"), new int[] {0, 0, 0, 9}, 7);
+        Due.outputs(Due.coded("k1k2g3wg5oor"), new int[] {0, 0, 0, 9}, 1, 2);
         Due.outputs(Due.coded("k1olalb/orh2,5,1"), new int[] {6, 0, 0, 5}, 1, 99);
         Due.outputs(Due.coded("k1olalb/orh2,5,1"), new int[] {6, 2, 0, 5}, 1, 3);
     }

@@ -245,10 +245,12 @@ public final class RightBoundsTest {
         Due.same("none more", full.feed(0, 0, 0, 0, 0), 240);
         Due.same("one more", full.feed(0x61000000, 0, 0, 0, 0), NONE);
         Due.same("twenty more", full.feed(many, many, many, many, many), NONE);
-        for (int word = 0; word < 5; word++) {
+        for (int place = 0; place < 20; place++) {
             int[] one = new int[5];
-            one[word] = 'r';
-            Due.same("one more in " + word, full.feed(one[0], one[1], one[2], one[3], one[4]), NONE);
+            one[place / 4] = 1 << place % 4 * 8;
+            Due.same("one more in " + place, full.feed(one[0], one[1], one[2], one[3], one[4]), NONE);
+            one[place / 4] = 128 << place % 4 * 8;
+            Due.same("one more in " + place, full.feed(one[0], one[1], one[2], one[3], one[4]), NONE);
         }
         Due.same("all stays", full.count(12), 240);
         Due.same("as it was", full.fault(), 219);

@@ -81,6 +81,11 @@ public final class ShapeBoundsTest {
         Due.holds("39 dominates 39", chain.dominates(39, 39));
         Due.fails("39 dominates 38", chain.dominates(39, 38));
         Due.fails("39 dominates 0", chain.dominates(39, 0));
+        // Three rounds that are entered twice each; in the first one it takes a second look at block 2.
+        CodeLifter tangled = Due.coded("laz5ipg5lbz4" + "laz11lbz13lbz9" + "laz17lbz19lbz15" + "r");
+        Due.same("tangled", tangled.count(6), NONE);
+        Due.fails("1 doesn't dominate 2", tangled.dominates(1, 2));
+        Due.text("above", Due.column(tangled, 'b', 4), "-1,0,0,0,3,4,4,4,7,7,7");
         Due.says("By those kept");
         Due.holds("without the jump 3 dominates 1", Due.coded(ENTERED_TWICE).dominates(3, 1));
         Due.fails("1 doesn't dominate 2", Due.coded(ENTERED_TWICE).dominates(1, 2));
@@ -117,6 +122,7 @@ public final class ShapeBoundsTest {
         Due.same("not what comes ahead", Due.coded("g1laz1r").loop(1), 2);
         Due.same("nor what is left to", Due.coded("laz0r").loop(0), 1);
         Due.same("two come back to one", Due.coded("laz0lbz0r").loop(0), 3);
+        Due.same("of two ways", Due.coded("laz3g0lbz0r").loop(0), 7);
         Due.same("no loop", Due.coded("g1r").loop(0), NONE);
         CodeLifter within = Due.coded("lcz10laz7k0sag2k0scg0r");
         Due.same("the outer one", within.loop(0), 15);
@@ -186,6 +192,11 @@ public final class ShapeBoundsTest {
         jumps(ENTERED_TWICE, 1, "1,0,0,0,0,0");
         column(ENTERED_TWICE, 'e', 1, "1,2,2,3,4,1");
         jumps(KNOT_1 + KNOT_2 + "r", 2, "1,0,0,0,0,0,1,0,0,0,0,0");
+        // Two rounds with one block in both; entered in each of the three blocks.
+        String text = "laz6laz8laz6laz4laz6r";
+        column(text, 'e', 0, "0,0,1,1,2,3,3,4,4");
+        column(text, 'e', 1, "1,3,2,4,3,4,2,5,3");
+        jumps(text, 2, "0,1,1,0,0,0,0,0,0");
     }
 
     private static void tangled() {
@@ -272,6 +283,7 @@ public final class ShapeBoundsTest {
         column(CAUGHT, 'b', 7, "0,0,1");
         column("latrh0,2,2", 'b', 7, "0,1");
         column("k1lalb/z6rorh0,5,6", 'b', 7, "0,0,1");
+        column("lalb/olalb%orororh0,4,9h4,8,11", 'b', 7, "0,0,0,1,1");
         column("k1olalb/orh2,5,1", 'b', 7, "0,1,0,0");
         // Nothing is thrown to it: it is a block as others.
         column("k1olalb*orh2,5,1", 'b', 7, "0,0,0,0");
@@ -456,6 +468,7 @@ public final class ShapeBoundsTest {
         CodeLifter lifter = Due.coded("laz6lbz6k1or");
         Due.same("the shorter way", lifter.far(0, 3), 1);
         Due.same("no way back", lifter.far(3, 0), NONE);
+        Due.same("one of two ways", Due.coded("laz5k1og6rr").far(0, 3), 2);
         Due.same("no way aside", Due.coded("laz3rr").far(1, 2), NONE);
         Due.same("over a jump", Due.coded(ENTERED_TWICE).far(0, 1), 1);
         Due.same("far(0, 4)", lifter.far(0, 4), NONE);

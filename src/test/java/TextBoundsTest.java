@@ -224,7 +224,7 @@ public final class TextBoundsTest {
     private static void others() {
         Due.says("d (the top once more), p (popped), w (both upper ones change places), i (an INPUT is pushed), o (popped: an OUTPUT)");
         Due.outputs(Due.coded("k1ladooor"), new int[] {7, 0, 0, 1}, 7, 7, 1);
-        Due.outputs(Due.coded("k1lapor"), new int[] {7, 0, 0, 1}, 1);
+        Due.outputs(Due.coded("k1k2lapoor"), new int[] {7, 0, 0, 1}, 2, 1);
         Due.outputs(Due.coded("k1k2lawooor"), new int[] {7, 0, 0, 1}, 2, 7, 1);
         Due.outputs(Due.coded("k1ioor"), new int[] {7, 0, 1, 1}, 3, 1);
         Due.says("t (popped: THROWN), r (the end).");
@@ -243,6 +243,9 @@ public final class TextBoundsTest {
             }
         }
         Due.runs(Due.coded("lalb*lblb*+or"), new int[] {5, 0, 0, 9}, 1, 0, 0, 0, 1);
+        // The lower one comes first: what throws there leaves no input to be drawn.
+        Due.runs(Due.coded("lalb/i+or"), new int[] {5, 0, 0, 9}, 0, 1, 99, 0, 1);
+        Due.runs(Due.coded("ilalb/+or"), new int[] {5, 0, 0, 9}, 0, 1, 99, 1, 1);
     }
 
     private static void goRound() {
@@ -300,6 +303,11 @@ public final class TextBoundsTest {
         Due.same("on the stack at AT", lifter.instruction(5, 2), 1);
         Due.same("at its block", lifter.block(1, 2), 1);
         Due.outputs(lifter, new int[] {-4, 0, 0, 9}, -4);
+        CodeLifter again = Due.coded("k1k2k3k4lalb/rog0h0,7,8");
+        Due.runs(again, new int[] {5, 0, 0, 200}, 100, 2, 0, 0, 200);
+        Due.same("the last", again.output(0, 5, 0, 0, 200, 99), 99);
+        Due.runs(again, new int[] {5, 1, 0, 200}, 0, 0, 0, 0, 2);
+        Due.outputs(Due.coded("lalb/ornorh0,4,5"), new int[] {5, 0, 0, 9}, -99);
         Due.verdict("k1k2latoorh0,4,4", -4);
         Due.verdict("lat" + "rh0,2,2", 2);
     }

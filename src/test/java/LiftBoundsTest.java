@@ -86,6 +86,19 @@ public final class LiftBoundsTest {
         lifts("lalb+nk5sbor", 0, "x0=-(a+b);b=5;out x0;return;");
         lifts("lalb+nk5scor", 0, "c=5;out -(a+b);return;");
         lifts("lfk5sfor", 0, "x0=f;f=5;out x0;return;");
+        for (int v = 0; v < 6; v++) {
+            char own = (char) ('a' + v);
+            char other = (char) ('a' + (v + 1) % 6);
+            lifts("l" + own + "k5s" + own + "or", 0, "x0=" + own + ";" + own + "=5;out x0;return;");
+            lifts("l" + own + "nk5s" + own + "or", 0, "x0=-" + own + ";" + own + "=5;out x0;return;");
+            lifts("l" + other + "k5s" + own + "or", 0, own + "=5;out " + other + ";return;");
+            lifts("l" + other + "nk5s" + own + "or", 0, own + "=5;out -" + other + ";return;");
+            lifts("l" + other + "k1+k5s" + own + "or", 0, own + "=5;out (" + other + "+1);return;");
+            lifts("k7k5s" + own + "or", 0, own + "=5;out 7;return;");
+            lifts("k7nk5s" + own + "or", 0, own + "=5;out -7;return;");
+            lifts("idpk5s" + own + "or", 0, "x0=in;" + own + "=5;out x0;return;");
+            lifts("k7g2k5s" + own + "or", 1, own + "=5;out t0;return;");
+        }
         lifts("lak1+sar", 0, "a=(a+1);return;");
         lifts("lalaoor", 0, "out a;out a;return;");
         lifts("lbilalalbsapppor", 0, "x0=in;x1=a;x2=a;a=b;out b;return;");
@@ -169,6 +182,10 @@ public final class LiftBoundsTest {
         Due.says("if Tk is in one of those above it, or in z's, X=Tk first (a fresh one), and this X there in its place");
         lifts("k1k2g3wg5oor", 1, "x0=t0;t0=t1;t1=x0;");
         lifts("k1g2k3wg5oor", 1, "x0=t0;t0=3;t1=x0;");
+        for (int k = 0; k < 5; k++) {
+            String text = "k1".repeat(k + 2) + "g" + (k + 3) + "wg" + (k + 5) + "p".repeat(k + 2) + "r";
+            lifts(text, 1, "x0=t" + k + ";t" + k + "=t" + (k + 1) + ";t" + (k + 1) + "=x0;");
+        }
         lifts("k1g2n!k3wg7+or", 1, "x0=t0;t0=3;t1=!-x0;");
         lifts("k1g2dd+*k3wg9oor", 1, "x0=t0;t0=3;t1=(x0*(x0+x0));");
         lifts("k1k2g3w-d*g8or", 1, "x0=(t1-t0);t0=(x0*x0);");

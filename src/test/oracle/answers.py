@@ -1,4 +1,7 @@
-"""Writes codes with all their answers, for GoldenTest: python3 answers.py SEED HOW_MANY > answers.txt"""
+"""Writes codes with all their answers, for GoldenTest:
+
+python3 answers.py SEED HOW_MANY > answers.txt       random codes
+python3 answers.py FILE > answers.txt                a code a line"""
 import random
 import sys
 from oracle import POP, PUSH, Obj
@@ -247,10 +250,18 @@ def change(told, rng, known):
         tell(told, 'P %d %d %d' % (i, sign, number), ['put %d' % known.put(i, sign, number)])
 
 
-def main():
-    rng = random.Random(int(sys.argv[1]))
-    told = []
-    for _ in range(int(sys.argv[2])):
+def of_texts(told, rng, texts):
+    for text in texts:
+        known = Obj()
+        tell(told, 'N', [])
+        signs = [ord(c) for c in text]
+        due = known.text(signs)
+        tell(told, 'T ' + ' '.join(map(str, signs)), due)
+        ask(told, rng, known)
+
+
+def at_random(told, rng, how_many):
+    for _ in range(how_many):
         known = Obj()
         tell(told, 'N', [])
         for _ in range(rng.randint(1, 3)):
@@ -265,6 +276,15 @@ def main():
             if known.C:
                 change(told, rng, known)
                 ask(told, rng, known)
+
+
+def main():
+    told = []
+    if len(sys.argv) > 2:
+        at_random(told, random.Random(int(sys.argv[1])), int(sys.argv[2]))
+    else:
+        with open(sys.argv[1]) as texts:
+            of_texts(told, random.Random(1), texts.read().split('\n')[:-1])
     print('\n'.join(told))
 
 

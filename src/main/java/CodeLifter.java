@@ -17,7 +17,7 @@ public final class CodeLifter {
     private static final int MOST_LINES = 800;
     private static final int MOST_SIGNS = 400;
     private static final int MOST_BLOCKS_RUN = 200;
-    private static final int MOST_STEPS = 100000;
+    private static final int MOST_STEPS = 1000000;
     /** No tree of expressions or lines is as deep: forty instructions make forty levels at most. */
     private static final int DEEPEST = 60;
 

@@ -1,7 +1,8 @@
 """Writes codes with all their answers, for GoldenTest:
 
 python3 answers.py SEED HOW_MANY > answers.txt       random codes
-python3 answers.py FILE > answers.txt                a code a line"""
+python3 answers.py FILE > answers.txt                a code a line
+python3 answers.py codes SEED HOW_MANY > codes.txt   the codes alone, such as are right, for SoundTest"""
 import random
 import sys
 from oracle import POP, PUSH, Obj
@@ -278,9 +279,20 @@ def at_random(told, rng, how_many):
                 ask(told, rng, known)
 
 
+def codes(told, rng, how_many):
+    while len(told) < how_many:
+        text = gen(rng)
+        known = Obj()
+        known.text([ord(c) for c in text][:240])
+        if known.C and len(known.C.ins) > 5:
+            told.append(text)
+
+
 def main():
     told = []
-    if len(sys.argv) > 2:
+    if len(sys.argv) > 3:
+        codes(told, random.Random(int(sys.argv[2])), int(sys.argv[3]))
+    elif len(sys.argv) > 2:
         at_random(told, random.Random(int(sys.argv[1])), int(sys.argv[2]))
     else:
         with open(sys.argv[1]) as texts:
